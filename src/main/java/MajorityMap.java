@@ -245,7 +245,7 @@ public final class MajorityMap {
         }
     }
 
-    /** What the commands up to a slot have made. Never changed once made, so that snapshots and messages may share it. */
+    /** What the commands up to a slot have made. It is never changed, so that snapshots and messages may share it. */
     private static final class State {
         final int slot;
         final int[] values;

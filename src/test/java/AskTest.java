@@ -8,6 +8,7 @@ public final class AskTest {
         onlyMembershipsForKind4();
         fortyAtMost();
         refusedTakesNoNumber();
+        lastRequestActs();
         kindsAct();
         addWraps();
         membersChangeThreeSlotsLater();
@@ -69,6 +70,19 @@ public final class AskTest {
         CHECK.due("first", x.ask(Play.READ, 0, 0), 1);
         x.ask(Play.READ, -1, 0);
         CHECK.due("second", x.ask(Play.READ, 0, 0), 2);
+    }
+
+    private static void lastRequestActs() {
+        MajorityMap x = Play.ledBy(0);
+        for (int q = 1; q <= 39; q++) {
+            x.ask(Play.READ, 0, 0);
+        }
+        int last = Play.perform(x, 0, Play.ADD, 0, 8);
+        CHECK.due("its number", last, 40);
+        CHECK.due("reply", x.reply(40), 8);
+        CHECK.due("heard", x.heard(40), 1);
+        CHECK.due("done", x.send(40, 4), 1);
+        CHECK.due("request 39 is not", x.send(39, 4), 0);
     }
 
     private static void kindsAct() {

@@ -7,6 +7,7 @@ public final class CrashTest {
         whatIsLost();
         whatIsKept();
         knownIsLost();
+        lastSlotIsLostAndKept();
         snapshotIsGoneBackTo();
         restart();
         CHECK.end();
@@ -79,6 +80,43 @@ public final class CrashTest {
         Play.deliver(x, Play.LEARN, 0, 3, 1);
         CHECK.due("slot 2 is not known any more", x.look(3, 3), 1);
         CHECK.due("value", x.value(3, 0), 1);
+    }
+
+    /** Slot 24 is known and voted for before slot 23 is: a crash takes what is known of it and leaves the votes. */
+    private static void lastSlotIsLostAndKept() {
+        MajorityMap x = Play.ledBy(0);
+        for (int q = 1; q <= 22; q++) {
+            Play.perform(x, 0, Play.ADD, 0, 1);
+        }
+        int a = x.ask(Play.ADD, 0, 100);
+        int b = x.ask(Play.ADD, 0, 1000);
+        x.cut(3);
+        x.send(a, 0);
+        x.send(b, 0);
+        Play.deliver(x, Play.ACCEPT, 0, 1, 24);
+        Play.deliver(x, Play.VOTED, 1, 0);
+        Play.deliver(x, Play.LEARN, 0, 3, 24);
+        x.crash(3);
+        x.restart(3);
+        Play.dropAll(x);
+        x.crash(0);
+        x.restart(0);
+        x.cut(2);
+        x.timer(2);
+        Play.deliver(x, Play.PREPARE, 2, 1);
+        CHECK.due("all votes of replica 1", x.message(x.waiting() - 1, 4), 23);
+        CHECK.due("slots 23 and 24 are proposed for", Play.deliver(x, Play.PROMISE, 1, 2), 4);
+        CHECK.due("slot 23", x.vote(2, 23), 64 * 7);
+        CHECK.due("slot 24", x.vote(2, 24), 64 * 7 + b);
+        Play.deliver(x, Play.ACCEPT, 2, 1, 23);
+        Play.deliver(x, Play.VOTED, 1, 2);
+        Play.deliver(x, Play.LEARN, 2, 3, 23);
+        CHECK.due("slot 24 is not known at replica 3 any more", x.look(3, 3), 23);
+        x.crash(2);
+        x.restart(2);
+        Play.dropAll(x);
+        x.timer(2);
+        CHECK.due("nothing is proposed at a new campaign", x.timer(2), 2);
     }
 
     private static void snapshotIsGoneBackTo() {

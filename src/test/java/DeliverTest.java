@@ -20,6 +20,7 @@ public final class DeliverTest {
         stateIsInstalled();
         stateLetsKnownCommandsGoOn();
         stateIsOld();
+        stateIsOldForOneThatNeverCut();
         replyFitsInAFullNet();
         CHECK.end();
     }
@@ -127,6 +128,11 @@ public final class DeliverTest {
         Play.dueLook(CHECK, "installed", x, 4, 1, 9, 1, 1, 9, 0, 7, 17);
         CHECK.due("the value", x.value(4, 2), 9);
         CHECK.due("nobody heard it from there", x.heard(q), 1);
+        Play.deliver(x, Play.PREPARE, 4, 2);
+        Play.deliver(x, Play.PROMISE, 2, 4);
+        int next = x.ask(Play.PUT, 2, 10);
+        CHECK.due("it leads on from there", x.send(next, 4), 2);
+        CHECK.due("with slot 2", x.message(x.waiting() - 1, 3), 2);
     }
 
     private static void promiseCarriesWhatStoodThen() {
@@ -314,6 +320,28 @@ public final class DeliverTest {
         CHECK.due("farther than the copy", x.look(3, 3), 2);
         CHECK.due("no step back", x.value(3, 0), 3);
         CHECK.due("nor for FLOOR", x.look(3, 2), 1);
+    }
+
+    private static void stateIsOldForOneThatNeverCut() {
+        MajorityMap x = Play.ledBy(0);
+        x.ask(Play.ADD, 0, 1);
+        x.ask(Play.ADD, 0, 2);
+        x.send(1, 0);
+        Play.deliver(x, Play.ACCEPT, 0, 1);
+        Play.deliver(x, Play.VOTED, 1, 0);
+        x.fetch(3, 0);
+        Play.deliver(x, Play.FETCH, 3, 0);
+        x.copy(Play.find(x, Play.STATE, 0, 3));
+        Play.deliver(x, Play.LEARN, 0, 3, 1);
+        CHECK.due("as far as the state", Play.deliver(x, Play.STATE, 0, 3), 0);
+        Play.dueLook(CHECK, "the same slot", x, 3, 1, 0, 0, 1);
+        x.send(2, 0);
+        Play.deliver(x, Play.ACCEPT, 0, 1, 2);
+        Play.deliver(x, Play.VOTED, 1, 0, 2);
+        Play.deliver(x, Play.LEARN, 0, 3, 2);
+        CHECK.due("farther than the state", Play.deliver(x, Play.STATE, 0, 3), 0);
+        Play.dueLook(CHECK, "an older slot", x, 3, 1, 0, 0, 2);
+        CHECK.due("value", x.value(3, 0), 3);
     }
 
     private static void replyFitsInAFullNet() {

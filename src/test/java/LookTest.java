@@ -101,6 +101,7 @@ public final class LookTest {
         Play.dueLook(CHECK, "the end", x, 0, 1, 5, 0, 24, 5, 1, 11, 7);
         CHECK.due("vote for 24", x.vote(0, 24), 64 * 5 + 24);
         CHECK.due("all votes", x.cut(0), 24);
+        CHECK.due("the last is forgotten, too", x.vote(0, 24), 0);
         CHECK.due("helpers above the last slot", x.timer(0), 1);
         CHECK.due("the new member", x.message(0, 2), 3);
         CHECK.due("value", x.value(0, 0), 23);

@@ -68,6 +68,9 @@ public final class NetTest {
         }
         CHECK.due("32 wait", x.copy(0), false);
         CHECK.due("waiting", x.waiting(), 32);
+        CHECK.due("behind the last", x.message(32, 0), -1);
+        CHECK.due("deliver behind the last", x.deliver(32), -1);
+        CHECK.due("drop behind the last", x.drop(32), false);
         CHECK.due("the newest", x.message(31, 2), 2);
         x.drop(5);
         CHECK.due("a free place", x.copy(0), true);

@@ -1,4 +1,7 @@
-/** Steps that many tests share. Kinds of requests and messages bear the document's names. */
+/**
+ * Steps that many tests share. Kinds of requests and messages bear the document's names. The steps are sparing with
+ * calls, since nothing is promised of an object after its 512th.
+ */
 final class Play {
     static final int READ = 0;
     static final int PUT = 1;
@@ -22,14 +25,16 @@ final class Play {
 
     /** Delivers the oldest message until none waits. */
     static void settle(MajorityMap x) {
-        for (int n = 0; n < 400 && x.waiting() > 0; n++) {
-            x.deliver(0);
+        int answer = 0;
+        for (int n = 0; n < 400 && answer != -1; n++) {
+            answer = x.deliver(0);
         }
     }
 
     static void dropAll(MajorityMap x) {
-        for (int n = 0; n < 32 && x.waiting() > 0; n++) {
-            x.drop(0);
+        boolean isThere = true;
+        for (int n = 0; n <= 32 && isThere; n++) {
+            isThere = x.drop(0);
         }
     }
 

@@ -2,15 +2,16 @@ import java.util.Random;
 
 /** Long runs of drawn calls, each answer compared with the reference's. The draws are the same in every run. */
 public final class ReferenceTest {
-    private static final int RUNS = 7000;
+    private static final int RUNS = 8000;
     private static final int CALLS = 512;
     private static final int CALM = 0;
     private static final int STEADY = 1;
     private static final int RIVALS = 4;
     private static final int NEWEST_FIRST = 5;
     private static final int CROWDED = 6;
-    private static final int STYLES = 7;
-    private static final int[] TROUBLE = {0, 10, 25, 60, 15, 5, 0};
+    private static final int LATE = 7;
+    private static final int STYLES = 8;
+    private static final int[] TROUBLE = {0, 10, 25, 60, 15, 5, 0, 15};
     private static final int[] WRONG = {-1, 5, 24, 25, 32, 41, Integer.MIN_VALUE, Integer.MAX_VALUE};
 
     private final Check check = new Check("ReferenceTest");
@@ -46,7 +47,8 @@ public final class ReferenceTest {
 
     private void playOne(int seed) {
         int style = seed % STYLES;
-        for (int call = 1; call <= CALLS && !failed; call++) {
+        int first = style == LATE ? comeNearTheEnd(seed) : 1;
+        for (int call = first; call <= CALLS && !failed; call++) {
             boolean looks = random.nextInt(style == CALM ? 12 : 4) == 0;
             if (looks) {
                 observe(seed, call);
@@ -62,6 +64,24 @@ public final class ReferenceTest {
         if (end == 24) {
             runsToTheEnd++;
         }
+    }
+
+    /** Drawn calls seldom bring rivals to the last slots, so here most slots are used up in good order. */
+    private int comeNearTheEnd(int seed) {
+        int slots = 19 + random.nextInt(5);
+        int call = 1;
+        same(seed, call++, "timer(0)", map.timer(0), reference.timer(0));
+        for (int q = 0; q <= slots; q++) {
+            if (q > 0) {
+                same(seed, call++, "ask(2, 0, 1)", map.ask(2, 0, 1), reference.ask(2, 0, 1));
+                same(seed, call++, "send(" + q + ", 0)", map.send(q, 0), reference.send(q, 0));
+            }
+            while (reference.waiting() > 0) {
+                same(seed, call++, "deliver(0)", map.deliver(0), reference.deliver(0));
+            }
+        }
+        asked = slots;
+        return call;
     }
 
     /** Without this a change of the draws could leave whole promises untouched and nobody would see it. */
@@ -125,7 +145,7 @@ public final class ReferenceTest {
     }
 
     private int timers(int style) {
-        return style == CALM ? 10 : style == RIVALS ? 90 : style == CROWDED ? 300 : 30;
+        return style == CALM ? 10 : style == RIVALS || style == LATE ? 90 : style == CROWDED ? 300 : 30;
     }
 
     private void strikeOne(int seed, int call, int style) {

@@ -10,6 +10,7 @@ public final class SendTest {
         knownOrProposed();
         knownWithoutProposal();
         proposedThoughTheSlotIsKnownOtherwise();
+        proposedForASlotThatWentToAnother();
         windowIsFull();
         noMajority();
         laterSlotWithoutMajority();
@@ -125,6 +126,24 @@ public final class SendTest {
         CHECK.due("it learns", Play.deliver(x, Play.LEARN, 1, 0, 2), 0);
         CHECK.due("it still campaigns", x.look(0, 4), 5);
         CHECK.due("what it proposed for slot 2", x.send(b, 0), 3);
+    }
+
+    private static void proposedForASlotThatWentToAnother() {
+        MajorityMap x = Play.ledBy(0);
+        int a = x.ask(Play.PUT, 0, 1);
+        int b = x.ask(Play.PUT, 0, 2);
+        x.send(a, 0);
+        Play.dropAll(x);
+        x.timer(1);
+        Play.deliver(x, Play.PREPARE, 1, 2);
+        Play.deliver(x, Play.PROMISE, 2, 1);
+        x.send(b, 1);
+        Play.deliver(x, Play.ACCEPT, 1, 2);
+        Play.deliver(x, Play.VOTED, 2, 1);
+        Play.deliver(x, Play.LEARN, 1, 0);
+        CHECK.due("slot 1 is executed", x.look(0, 3), 1);
+        CHECK.due("what was proposed for it counts no more", x.send(a, 0), 2);
+        CHECK.due("slot 2", x.vote(0, 2), 64 * 5 + a);
     }
 
     private static void windowIsFull() {

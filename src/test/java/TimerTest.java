@@ -9,9 +9,12 @@ public final class TimerTest {
         crashEndsACampaign();
         preparesForThoseNotHeard();
         helpersOfThreeSlots();
+        helpersOfTheMiddleSlot();
         acceptsForThoseWhoHaveNotVoted();
         collectsItsOwnVotes();
         forgetsTheOldCampaign();
+        forgetsWhatWasCollected();
+        forgetsWhoVoted();
         countsWhatTheNetTook();
         CHECK.end();
     }
@@ -101,6 +104,24 @@ public final class TimerTest {
         Play.dueMessage(CHECK, "second", x, 1, Play.PREPARE, 2, 4, 12, 0, 0);
     }
 
+    private static void helpersOfTheMiddleSlot() {
+        MajorityMap x = Play.ledBy(0);
+        Play.perform(x, 0, Play.MEMBERS, 0, 24);
+        Play.perform(x, 0, Play.MEMBERS, 0, 7);
+        CHECK.due("slots 3 and 5 are of 7, slot 4 of 24", x.timer(0), 2);
+        CHECK.due("first", x.message(0, 2), 3);
+        CHECK.due("second", x.message(1, 2), 4);
+        Play.settle(x);
+        int a = x.ask(Play.READ, 0, 0);
+        int b = x.ask(Play.READ, 0, 0);
+        x.send(a, 0);
+        Play.dropAll(x);
+        x.send(b, 0);
+        CHECK.due("slot 4 goes to two", x.waiting(), 2);
+        CHECK.due("to 3", x.message(0, 2), 3);
+        CHECK.due("to 4", x.message(1, 2), 4);
+    }
+
     private static void acceptsForThoseWhoHaveNotVoted() {
         MajorityMap x = Play.ledBy(0);
         Play.perform(x, 0, Play.MEMBERS, 0, 31);
@@ -159,6 +180,52 @@ public final class TimerTest {
         Play.dropAll(x);
         CHECK.due("nothing is proposed, so PREPARE alone", x.timer(0), 2);
         CHECK.due("the old proposal does not count", x.send(a, 0), 4);
+    }
+
+    /** Replica 1 tells its vote to a campaign of replica 4 that ends; the next one hears of replicas 0 and 2 alone. */
+    private static void forgetsWhatWasCollected() {
+        MajorityMap x = Play.ledBy(3);
+        x.ask(Play.PUT, 0, 3);
+        x.ask(Play.PUT, 0, 4);
+        x.send(1, 3);
+        Play.deliver(x, Play.ACCEPT, 3, 1);
+        Play.dropAll(x);
+        x.timer(4);
+        Play.deliver(x, Play.PREPARE, 4, 1);
+        CHECK.due("one vote is told", x.message(x.waiting() - 1, 4), 1);
+        Play.deliver(x, Play.PROMISE, 1, 4);
+        CHECK.due("HEARD of one member", x.look(4, 7), 18);
+        x.crash(4);
+        x.restart(4);
+        Play.dropAll(x);
+        x.timer(4);
+        Play.deliver(x, Play.PREPARE, 4, 0);
+        Play.deliver(x, Play.PREPARE, 4, 2);
+        Play.deliver(x, Play.PROMISE, 0, 4);
+        CHECK.due("nothing to propose", Play.deliver(x, Play.PROMISE, 2, 4), 0);
+        CHECK.due("so another request goes to slot 1", x.send(2, 4), 2);
+        CHECK.due("slot 1", x.message(x.waiting() - 1, 3), 1);
+    }
+
+    private static void forgetsWhoVoted() {
+        MajorityMap x = Play.ledBy(4);
+        x.ask(Play.PUT, 0, 3);
+        x.send(1, 4);
+        Play.deliver(x, Play.ACCEPT, 4, 1);
+        CHECK.due("one vote", Play.deliver(x, Play.VOTED, 1, 4), 0);
+        x.crash(4);
+        x.restart(4);
+        Play.dropAll(x);
+        x.timer(4);
+        Play.deliver(x, Play.PREPARE, 4, 1);
+        Play.deliver(x, Play.PREPARE, 4, 2);
+        Play.deliver(x, Play.PROMISE, 1, 4);
+        CHECK.due("proposed again", Play.deliver(x, Play.PROMISE, 2, 4), 3);
+        Play.deliver(x, Play.ACCEPT, 4, 2);
+        CHECK.due("one vote again", Play.deliver(x, Play.VOTED, 2, 4), 0);
+        CHECK.due("not executed", x.look(4, 3), 0);
+        Play.dropAll(x);
+        CHECK.due("PREPARE to 0, ACCEPT to 0 and 1", x.timer(4), 3);
     }
 
     private static void countsWhatTheNetTook() {

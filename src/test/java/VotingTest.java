@@ -8,6 +8,7 @@ public final class VotingTest {
         acceptRaisesPromised();
         acceptBelowTheFloor();
         acceptBelowTheFloorIsRefusedFirst();
+        acceptBelowTheFloorIsToldTheSnapshot();
         acceptOfAnExecutedSlot();
         votedMakesKnown();
         votedAfterTheEnd();
@@ -23,6 +24,7 @@ public final class VotingTest {
         goingOnFillsGapsBelowKnown();
         goingOnProposesThreeSlots();
         goingOnWaitsForTheMembership();
+        goingOnWithoutLeading();
         CHECK.end();
     }
 
@@ -69,7 +71,7 @@ public final class VotingTest {
         CHECK.due("and gets its vote", y.vote(1, 1), 64 * 7 + 1);
     }
 
-    /** Replica 1 has cut slot 1 away; replica 4, which knows nothing of it, leads by replicas 0 and 2 and proposes for it. */
+    /** Replica 1 has cut slot 1 away; replica 4 knows nothing of that, leads by replicas 0 and 2 and proposes for it. */
     private static MajorityMap cutAway() {
         MajorityMap x = Play.ledBy(0);
         x.ask(Play.PUT, 0, 6);
@@ -112,6 +114,27 @@ public final class VotingTest {
         CHECK.due("its ballot is above that of 4", x.look(1, 4), 11);
         Play.deliver(x, Play.ACCEPT, 4, 1);
         Play.dueMessage(CHECK, "refuse", x, x.waiting() - 1, Play.REFUSE, 1, 4, 11, 0, 0);
+    }
+
+    private static void acceptBelowTheFloorIsToldTheSnapshot() {
+        MajorityMap x = Play.ledBy(0);
+        x.ask(Play.PUT, 0, 6);
+        x.ask(Play.PUT, 0, 7);
+        x.send(1, 0);
+        x.send(2, 0);
+        for (int s = 1; s <= 2; s++) {
+            Play.deliver(x, Play.ACCEPT, 0, 1, s);
+            Play.deliver(x, Play.VOTED, 1, 0, s);
+            Play.deliver(x, Play.LEARN, 0, 2, s);
+            if (s == 1) {
+                x.cut(2);
+            }
+        }
+        Play.dueLook(CHECK, "one slot farther than its snapshot", x, 2, 1, 5, 1, 2);
+        CHECK.due("slot 1", Play.deliver(x, Play.ACCEPT, 0, 2, 1), 1);
+        Play.dueMessage(CHECK, "the snapshot", x, x.waiting() - 1, Play.STATE, 2, 0, 1, 1, 0);
+        CHECK.due("slot 2 is above FLOOR", Play.deliver(x, Play.ACCEPT, 0, 2, 2), 1);
+        CHECK.due("and is voted for", x.message(x.waiting() - 1, 0), Play.VOTED);
     }
 
     private static void acceptOfAnExecutedSlot() {
@@ -388,5 +411,39 @@ public final class VotingTest {
         CHECK.due("slot 4 to both its members", Play.deliver(x, Play.PROMISE, 4, 1), 2);
         Play.dueMessage(CHECK, "slot 4", x, x.waiting() - 1, Play.ACCEPT, 1, 4, 4, 0, 4);
         CHECK.due("no vote of one outside", x.vote(1, 4), 0);
+    }
+
+    /** Slot 4 has members that replica 1 never hears of, slot 5 has the first members again. */
+    private static void goingOnWithoutLeading() {
+        MajorityMap x = Play.ledBy(0);
+        Play.perform(x, 0, Play.MEMBERS, 0, 24);
+        Play.perform(x, 0, Play.MEMBERS, 0, 7);
+        Play.perform(x, 0, Play.READ, 0, 0);
+        x.timer(0);
+        Play.settle(x);
+        x.ask(Play.ADD, 0, 4);
+        x.ask(Play.ADD, 0, 5);
+        x.send(4, 0);
+        x.send(5, 0);
+        Play.deliver(x, Play.ACCEPT, 0, 2, 5);
+        Play.dropAll(x);
+        x.crash(0);
+        x.timer(1);
+        Play.deliver(x, Play.PREPARE, 1, 2);
+        CHECK.due("slot 5 is proposed for", Play.deliver(x, Play.PROMISE, 2, 1), 2);
+        CHECK.due("slot 4 is not", x.vote(1, 4), 0);
+        CHECK.due("its vote for slot 5", x.vote(1, 5), 64 * 6 + 5);
+        CHECK.due("it does not lead", x.look(1, 5), 0);
+        Play.deliver(x, Play.ACCEPT, 1, 2, 5);
+        CHECK.due("slot 5 is known", Play.deliver(x, Play.VOTED, 2, 1), 4);
+        CHECK.due("but not executed", x.look(1, 3), 3);
+        CHECK.due("request 5 is known", x.send(5, 1), 3);
+        Play.deliver(x, Play.PREPARE, 1, 3);
+        Play.deliver(x, Play.PREPARE, 1, 4);
+        Play.deliver(x, Play.PROMISE, 3, 1);
+        CHECK.due("slot 4 is a gap below a known slot", Play.deliver(x, Play.PROMISE, 4, 1), 2);
+        Play.settle(x);
+        CHECK.due("both are executed", x.look(1, 3), 5);
+        CHECK.due("one acted", x.value(1, 0), 5);
     }
 }
