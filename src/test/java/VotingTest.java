@@ -71,7 +71,7 @@ public final class VotingTest {
         CHECK.due("and gets its vote", y.vote(1, 1), 64 * 7 + 1);
     }
 
-    /** Replica 1 has cut slot 1 away; replica 4 knows nothing of that, leads by replicas 0 and 2 and proposes for it. */
+    /** Replica 1 has cut slot 1 away; replica 4 does not know it, leads by replicas 0 and 2 and proposes for it. */
     private static MajorityMap cutAway() {
         MajorityMap x = Play.ledBy(0);
         x.ask(Play.PUT, 0, 6);
