@@ -3,7 +3,7 @@
  * sets apart has a test of its own. INSTALL, GO ON and PROPOSE are in GoOnEdgeTest.
  *
  * One case can't be brought about by calls: a VOTED for BALLOT and a slot for which nothing is proposed, as it answers
- * an ACCEPT that only a proposal of that very campaign sends.
+ * an ACCEPT that only a proposal of that very campaign sends. It is in HiddenEdgeTest, with forged messages.
  */
 public final class MessageEdgeTest {
     private static final Check CHECK = new Check("MessageEdgeTest");

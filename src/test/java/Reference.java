@@ -83,6 +83,10 @@ final class Reference {
     private final List<Message> net = new ArrayList<>();
     private final List<Replica> replicas = new ArrayList<>();
 
+    /** How often a sentence was reached that calls alone don't lead to. */
+    int votesForNoProposal;
+    int otherCommandsLearnt;
+
     Reference() {
         for (int r = 0; r < 5; r++) {
             Replica replica = new Replica();
@@ -310,10 +314,7 @@ final class Reference {
         } else if (m.kind == 4) {
             receiveVoted(x, m);
         } else if (m.kind == 5) {
-            if (m.slot > x.executed() && !x.known.containsKey(m.slot)) {
-                x.known.put(m.slot, m.command);
-                goOn(x);
-            }
+            receiveLearn(x, m);
         } else if (m.kind == 6) {
             if (m.ballot > x.promised) {
                 x.promised = m.ballot;
@@ -388,8 +389,11 @@ final class Reference {
     }
 
     private void receiveVoted(Replica x, Message m) {
-        if (!x.campaigns() || m.ballot != x.campaign.ballot || m.slot <= x.executed() || x.known.containsKey(m.slot)
-                || !x.campaign.proposed.containsKey(m.slot)) {
+        if (!x.campaigns() || m.ballot != x.campaign.ballot || m.slot <= x.executed() || x.known.containsKey(m.slot)) {
+            return;
+        }
+        if (!x.campaign.proposed.containsKey(m.slot)) {
+            votesForNoProposal++;
             return;
         }
         TreeSet<Integer> voted = x.campaign.voted.get(m.slot);
@@ -406,6 +410,17 @@ final class Reference {
             }
             goOn(x);
         }
+    }
+
+    private void receiveLearn(Replica x, Message m) {
+        if (m.slot <= x.executed() || x.known.containsKey(m.slot)) {
+            if (x.known.getOrDefault(m.slot, m.command) != m.command) {
+                otherCommandsLearnt++;
+            }
+            return;
+        }
+        x.known.put(m.slot, m.command);
+        goOn(x);
     }
 
     private void install(Replica x, List<Integer> came) {
@@ -558,5 +573,21 @@ final class Reference {
 
     int heard(int q) {
         return noRequest(q) ? 0 : requests.get(q - 1).heard;
+    }
+
+    /** As Inside.forge does with an object of MajorityMap. */
+    boolean forge(int kind, int from, int to, int ballot, int slot, int command) {
+        boolean isRoom = net.size() < 32;
+        Message m = make(kind, from, to);
+        m.ballot = ballot;
+        m.slot = slot;
+        m.command = command;
+        post(m);
+        return isRoom;
+    }
+
+    /** As Inside.known answers of an object of MajorityMap. */
+    int known(int r, int slot) {
+        return replicas.get(r).known.getOrDefault(slot, -1);
     }
 }

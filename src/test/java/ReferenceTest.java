@@ -1,8 +1,12 @@
 import java.util.Random;
 
-/** Long runs of drawn calls, each answer compared with the reference's. The draws are the same in every run. */
+/**
+ * Long runs of drawn calls, each answer compared with the reference's, and what is known at the end, too. In one style
+ * messages are forged in between, so that sentences are reached that calls alone don't lead to. The draws are the same
+ * in every run.
+ */
 public final class ReferenceTest {
-    private static final int RUNS = 8000;
+    private static final int RUNS = 9000;
     private static final int CALLS = 512;
     private static final int CALM = 0;
     private static final int STEADY = 1;
@@ -10,8 +14,11 @@ public final class ReferenceTest {
     private static final int NEWEST_FIRST = 5;
     private static final int CROWDED = 6;
     private static final int LATE = 7;
-    private static final int STYLES = 8;
-    private static final int[] TROUBLE = {0, 10, 25, 60, 15, 5, 0, 15};
+    private static final int LEAST_BALLOT = 5;
+    private static final int FORGED = 8;
+    private static final int STYLES = 9;
+    private static final int[] TROUBLE = {0, 10, 25, 60, 15, 5, 0, 15, 10};
+    private static final int[] FORGEABLE = {1, 3, 4, 4, 4, 5, 5, 5, 6, 7};
     private static final int[] WRONG = {-1, 5, 24, 25, 32, 41, Integer.MIN_VALUE, Integer.MAX_VALUE};
 
     private final Check check = new Check("ReferenceTest");
@@ -22,6 +29,8 @@ public final class ReferenceTest {
     private int lostToAFullNet;
     private int sendsPastTheEnd;
     private int timersIntoAFullNet;
+    private int votesForNoProposal;
+    private int otherCommandsLearnt;
 
     private Random random;
     private MajorityMap map;
@@ -56,6 +65,9 @@ public final class ReferenceTest {
                 act(seed, call, style);
             }
         }
+        compareKnown(seed);
+        votesForNoProposal += reference.votesForNoProposal;
+        otherCommandsLearnt += reference.otherCommandsLearnt;
         int end = 0;
         for (int r = 0; r < 5; r++) {
             end = Math.max(end, reference.look(r, 3));
@@ -63,6 +75,14 @@ public final class ReferenceTest {
         mostExecuted = Math.max(mostExecuted, end);
         if (end == 24) {
             runsToTheEnd++;
+        }
+    }
+
+    private void compareKnown(int seed) {
+        for (int r = 0; r < 5; r++) {
+            for (int s = 1; s <= 24; s++) {
+                same(seed, CALLS, "known(" + r + ", " + s + ")", Inside.known(map, r, s), reference.known(r, s));
+            }
         }
     }
 
@@ -97,6 +117,8 @@ public final class ReferenceTest {
         check.due("requests were sent when the slots were used up", sendsPastTheEnd > 100, true);
         check.due("messages were lost to a full net", lostToAFullNet > 100, true);
         check.due("clocks struck while the net was full", timersIntoAFullNet > 1000, true);
+        check.due("votes came for what was not proposed", votesForNoProposal > 1000, true);
+        check.due("known slots were told otherwise", otherCommandsLearnt > 1000, true);
     }
 
     private int replica() {
@@ -131,7 +153,9 @@ public final class ReferenceTest {
     private void act(int seed, int call, int style) {
         int draw = random.nextInt(1000);
         int trouble = TROUBLE[style];
-        if (asked < 3 || draw < (style == CALM ? 90 : 50)) {
+        if (style == FORGED && asked > 0 && random.nextInt(6) == 0) {
+            forgeOne(seed, call);
+        } else if (asked < 3 || draw < (style == CALM ? 90 : 50)) {
             askOne(seed, call, style);
         } else if (draw < 250) {
             sendOne(seed, call, style);
@@ -142,6 +166,30 @@ public final class ReferenceTest {
         } else {
             deliverOne(seed, call, style);
         }
+    }
+
+    /** Near what the receiver holds, as most of what is drawn wildly would come to nothing. */
+    private void forgeOne(int seed, int call) {
+        int kind = FORGEABLE[random.nextInt(FORGEABLE.length)];
+        int to = kind == 4 ? campaigner() : random.nextInt(5);
+        int from = (to + 1 + random.nextInt(4)) % 5;
+        int ballot = Math.max(reference.look(to, 1) + (kind == 4 ? 0 : random.nextInt(5) - 2), LEAST_BALLOT);
+        int slot = kind == 7 ? random.nextInt(25)
+                : Math.max(1, Math.min(24, reference.look(to, 3) + random.nextInt(6) - 1));
+        int command = kind == 3 || kind == 5 ? random.nextInt(asked + 1) : 0;
+        String text = "forge(" + kind + ", " + from + ", " + to + ", " + ballot + ", " + slot + ", " + command + ")";
+        same(seed, call, text, Inside.forge(map, kind, from, to, ballot, slot, command),
+                reference.forge(kind, from, to, ballot, slot, command));
+    }
+
+    private int campaigner() {
+        int found = random.nextInt(5);
+        for (int r = 0; r < 5; r++) {
+            if (reference.look(r, 4) > 0 && random.nextBoolean()) {
+                found = r;
+            }
+        }
+        return found;
     }
 
     private int timers(int style) {
